@@ -59,6 +59,7 @@ public final class ScheduleCheck {
 
     private final byte[] tape;
     private int tapeSize;
+    private final Tokens tokens;
     private final Parser parser;
     private final States states;
     private final Explorer explorer;
@@ -70,7 +71,8 @@ public final class ScheduleCheck {
 
     public ScheduleCheck() {
         tape = new byte[TAPE_LIMIT];
-        parser = new Parser(tape);
+        tokens = new Tokens();
+        parser = new Parser();
         states = new States();
         program = new Program();
         draft = new Program();
@@ -106,8 +108,9 @@ public final class ScheduleCheck {
     }
 
     public int check() {
-        int fault = parser.parse(tapeSize, draft);
+        tokens.split(tape, tapeSize);
         tapeSize = 0;
+        int fault = parser.parse(tokens, draft);
         if (fault != NONE) {
             return fault;
         }
@@ -319,81 +322,80 @@ public final class ScheduleCheck {
         ASSIGN, TAKE, GIVE, WAIT, WAKE, WAKE_ALL, ASSERT, IF, WHILE, STOP
     }
 
-    /** Reads the tape token by token. */
-    private static final class Reader {
-        private final byte[] tape;
+    /** The tokens of a text, the last of them END, or BAD where a byte begins none. */
+    private static final class Tokens {
+        final Token[] kinds;
+        final int[] starts;
+        /** A number itself, or a name packed into its bytes, of which there are at most eight. */
+        final long[] contents;
         private int size;
         private int at;
-        Token token;
-        int start;
-        int number;
-        /** A name is packed into its bytes, of which there are never more than eight. */
-        long name;
 
-        Reader(byte[] tape) {
-            this.tape = tape;
-            this.token = Token.END;
+        Tokens() {
+            kinds = new Token[TAPE_LIMIT + 1];
+            starts = new int[TAPE_LIMIT + 1];
+            contents = new long[TAPE_LIMIT + 1];
         }
 
-        void begin(int tapeSize) {
-            size = tapeSize;
+        void split(byte[] text, int length) {
+            size = 0;
             at = 0;
-            read();
+            for (int i = 0; i <= TAPE_LIMIT; i++) {
+                while (at < length && (text[at] == ' ' || text[at] == '\n')) {
+                    at++;
+                }
+                addToken(text, length);
+                if (kinds[i] == Token.END || kinds[i] == Token.BAD) {
+                    return;
+                }
+            }
         }
 
-        void read() {
-            while (at < size && (tape[at] == ' ' || tape[at] == '\n')) {
-                at++;
-            }
-            start = at;
-            if (at >= size) {
-                token = Token.END;
-            } else if (isLetter(tape[at])) {
-                readWord();
-            } else if (isDigit(tape[at])) {
-                readNumber();
+        private void addToken(byte[] text, int length) {
+            starts[size] = at;
+            if (at >= length) {
+                kinds[size] = Token.END;
+            } else if (isLetter(text[at])) {
+                kinds[size] = readWord(text, length);
+            } else if (isDigit(text[at])) {
+                kinds[size] = readNumber(text, length);
             } else {
-                readSign();
+                kinds[size] = readSign(text, length);
             }
+            size++;
         }
 
-        private void readWord() {
-            name = 0;
-            while (at < size && (isLetter(tape[at]) || isDigit(tape[at]))) {
-                name = name << 8 | tape[at];
+        private Token readWord(byte[] text, int length) {
+            int start = at;
+            long key = 0;
+            while (at < length && (isLetter(text[at]) || isDigit(text[at]))) {
+                key = key << 8 | text[at];
                 at++;
             }
             if (at - start > LONGEST_NAME) {
-                token = Token.BAD;
-                return;
+                return Token.BAD;
             }
-            token = Token.find(name, at - start);
-            if (token == Token.BAD) {
-                token = Token.NAME;
-            }
+            contents[size] = key;
+            Token word = Token.find(key, at - start);
+            return word == Token.BAD ? Token.NAME : word;
         }
 
-        private void readNumber() {
-            number = 0;
-            while (at < size && isDigit(tape[at])) {
-                number = Math.min(number * 10 + tape[at] - '0', GREATEST_NUMBER + 1);
+        private Token readNumber(byte[] text, int length) {
+            int number = 0;
+            while (at < length && isDigit(text[at])) {
+                number = Math.min(number * 10 + text[at] - '0', GREATEST_NUMBER + 1);
                 at++;
             }
-            token = number > GREATEST_NUMBER ? Token.BAD : Token.NUMBER;
+            contents[size] = number;
+            return number > GREATEST_NUMBER ? Token.BAD : Token.NUMBER;
         }
 
-        private void readSign() {
-            int one = tape[at] & 255;
-            token = Token.BAD;
-            if (at + 1 < size) {
-                token = Token.find(one << 8 | tape[at + 1] & 255, 2);
-            }
-            if (token != Token.BAD) {
-                at += 2;
-                return;
-            }
-            token = Token.find(one, 1);
-            at++;
+        private Token readSign(byte[] text, int length) {
+            int one = text[at] & 255;
+            int two = at + 1 < length ? text[at + 1] & 255 : 0;
+            Token pair = Token.find(one << 8 | two, 2);
+            at += pair == Token.BAD ? 1 : 2;
+            return pair == Token.BAD ? Token.find(one, 1) : pair;
         }
 
         private static boolean isLetter(int one) {
@@ -408,7 +410,7 @@ public final class ScheduleCheck {
     private static final class Statement {
         Kind kind;
         int parent;
-        /** The cell that an assignment sets, or the lock that is meant. */
+        /** The cell that an assignment sets, or that holds the owner of the lock that is meant. */
         int target;
         int codeFrom;
         int codeTo;
@@ -433,6 +435,10 @@ public final class ScheduleCheck {
             no = OPEN_END;
             follow = OPEN_END;
             uses = 0;
+        }
+
+        boolean needsOwner() {
+            return kind == Kind.GIVE || kind == Kind.WAIT || kind == Kind.WAKE || kind == Kind.WAKE_ALL;
         }
 
         boolean uses(int variable) {
@@ -574,39 +580,43 @@ public final class ScheduleCheck {
     }
 
     /**
-     * Makes a program of a text. After a fault the token is BAD for good: nothing takes that, so
+     * Makes a program of tokens. After a fault the token is BAD for good: nothing takes that, so
      * every loop and every call that stands open comes to its end by itself.
      */
     private static final class Parser {
-        private final Reader reader;
-        private final long[] variableNames;
-        private final long[] lockNames;
-        private final long[] localNames;
+        /** What is declared: variables and locks, and behind them the locals of the thread. */
+        private final long[] names;
+        private final int[] cells;
+        private int known;
+        private int shared;
+        private Tokens tokens;
+        private int at;
+        private Token token;
         private Program program;
         private int fault;
         private int atoms;
         private int uses;
 
-        Parser(byte[] tape) {
-            reader = new Reader(tape);
-            variableNames = new long[MOST_VARIABLES];
-            lockNames = new long[MOST_LOCKS];
-            localNames = new long[MOST_LOCALS];
+        Parser() {
+            names = new long[MOST_VARIABLES + MOST_LOCKS + MOST_LOCALS];
+            cells = new int[MOST_VARIABLES + MOST_LOCKS + MOST_LOCALS];
         }
 
         /** The place of the fault, or NONE. */
-        int parse(int tapeSize, Program made) {
+        int parse(Tokens read, Program made) {
+            tokens = read;
+            at = 0;
+            token = tokens.kinds[0];
             program = made;
             program.clear();
             fault = NONE;
             atoms = 0;
-            reader.begin(tapeSize);
             readDeclarations();
             readThread();
-            for (int i = 0; i < MOST_THREADS && reader.token == Token.THREAD; i++) {
+            for (int i = 0; i < MOST_THREADS && token == Token.THREAD; i++) {
                 readThread();
             }
-            if (reader.token != Token.END) {
+            if (token != Token.END) {
                 fail();
             }
             if (fault == NONE) {
@@ -617,19 +627,21 @@ public final class ScheduleCheck {
 
         private void fail() {
             if (fault == NONE) {
-                fault = reader.start;
+                fault = tokens.starts[at];
             }
-            reader.token = Token.BAD;
+            token = Token.BAD;
         }
 
+        /** END is never taken, so there is always a token behind the one that is. */
         private void advance() {
-            if (fault == NONE) {
-                reader.read();
+            if (fault == NONE && at < TAPE_LIMIT) {
+                at++;
+                token = tokens.kinds[at];
             }
         }
 
         private void expect(Token wanted) {
-            if (reader.token == wanted) {
+            if (token == wanted) {
                 advance();
             } else {
                 fail();
@@ -637,74 +649,97 @@ public final class ScheduleCheck {
         }
 
         private void readDeclarations() {
+            known = 0;
             for (int i = 0; i <= MOST_VARIABLES + MOST_LOCKS; i++) {
-                if (reader.token == Token.VAR) {
+                if (token == Token.VAR) {
                     readVariable();
-                } else if (reader.token == Token.LOCK) {
+                } else if (token == Token.LOCK) {
                     readLock();
-                } else {
-                    return;
                 }
             }
+            shared = known;
         }
 
         private void readVariable() {
-            advance();
-            if (program.variables == MOST_VARIABLES || !isNewName()) {
-                fail();
-                return;
-            }
             int variable = program.variables;
-            variableNames[variable] = reader.name;
-            program.variables++;
             advance();
-            program.firstValues[variable] = readFirstValue();
-            expect(Token.SEMICOLON);
+            if (declare(variable < MOST_VARIABLES, 0, variable)) {
+                program.variables++;
+                program.firstValues[variable] = readFirstValue();
+                expect(Token.SEMICOLON);
+            }
         }
 
         private int readFirstValue() {
-            if (reader.token != Token.GETS) {
+            if (token != Token.GETS) {
                 return 0;
             }
             advance();
-            boolean negative = reader.token == Token.MINUS;
+            boolean negative = token == Token.MINUS;
             if (negative) {
                 advance();
             }
-            int number = reader.number;
+            int number = (int) tokens.contents[at];
             expect(Token.NUMBER);
             return negative ? -number : number;
         }
 
         private void readLock() {
+            int lock = program.locks;
             advance();
-            if (program.locks == MOST_LOCKS || !isNewName()) {
-                fail();
-                return;
+            if (declare(lock < MOST_LOCKS, 0, OWNER_CELL + lock)) {
+                program.locks++;
+                expect(Token.SEMICOLON);
             }
-            lockNames[program.locks] = reader.name;
-            program.locks++;
-            advance();
-            expect(Token.SEMICOLON);
         }
 
-        private boolean isNewName() {
-            return reader.token == Token.NAME
-                && find(variableNames, program.variables) < 0
-                && find(lockNames, program.locks) < 0;
+        /** Makes the name that stands here known, if it is not among those from a place on. */
+        private boolean declare(boolean hasRoom, int from, int cell) {
+            if (token != Token.NAME || !hasRoom || find(from) >= 0) {
+                fail();
+                return false;
+            }
+            names[known] = tokens.contents[at];
+            cells[known] = cell;
+            known++;
+            advance();
+            return true;
+        }
+
+        /** The cell of the name that stands here, or NONE; what was declared last hides the others. */
+        private int find(int from) {
+            for (int i = known - 1; i >= from; i--) {
+                if (token == Token.NAME && names[i] == tokens.contents[at]) {
+                    return cells[i];
+                }
+            }
+            return NONE;
+        }
+
+        private static boolean isLock(int cell) {
+            return cell >= OWNER_CELL && cell < PLACE_CELL;
+        }
+
+        private static boolean isVariable(int cell) {
+            return cell >= 0 && cell < OWNER_CELL;
+        }
+
+        private static boolean isLocal(int cell) {
+            return cell >= LOCAL_CELL;
         }
 
         private void readThread() {
-            if (reader.token != Token.THREAD || program.threads == MOST_THREADS) {
+            int thread = program.threads;
+            if (token != Token.THREAD || thread == MOST_THREADS) {
                 fail();
                 return;
             }
-            int thread = program.threads;
             program.threads++;
             program.locals[thread] = 0;
+            known = shared;
             advance();
             expect(Token.OPEN);
-            for (int i = 0; i <= MOST_LOCALS && reader.token == Token.LOCAL; i++) {
+            for (int i = 0; i <= MOST_LOCALS && token == Token.LOCAL; i++) {
                 readLocal(thread);
             }
             int entry = program.size;
@@ -714,21 +749,17 @@ public final class ScheduleCheck {
         }
 
         private void readLocal(int thread) {
+            int k = program.locals[thread];
             advance();
-            int known = program.locals[thread];
-            if (reader.token != Token.NAME || known == MOST_LOCALS || find(localNames, known) >= 0) {
-                fail();
-                return;
+            if (declare(k < MOST_LOCALS, shared, localCell(thread, k))) {
+                program.locals[thread]++;
+                expect(Token.SEMICOLON);
             }
-            localNames[known] = reader.name;
-            program.locals[thread]++;
-            advance();
-            expect(Token.SEMICOLON);
         }
 
         private void readStatements(int parent, int depth) {
             for (int i = 0; i <= MOST_STATEMENTS; i++) {
-                if (fault != NONE || reader.token == Token.CLOSE) {
+                if (fault != NONE || token == Token.CLOSE) {
                     return;
                 }
                 readStatement(parent, depth);
@@ -743,7 +774,7 @@ public final class ScheduleCheck {
             Statement made = program.statements[program.size];
             made.begin(parent);
             program.size++;
-            switch (reader.token) {
+            switch (token) {
                 case NAME: readAssignment(made); break;
                 case TAKE: readLockUse(made, Kind.TAKE); break;
                 case GIVE: readLockUse(made, Kind.GIVE); break;
@@ -755,32 +786,35 @@ public final class ScheduleCheck {
                 case WHILE: readCondition(made, Kind.WHILE, depth); break;
                 default: fail(); break;
             }
-            made.follow = reader.token == Token.CLOSE ? OPEN_END : program.size;
+            made.follow = token == Token.CLOSE ? OPEN_END : program.size;
         }
 
         private void readAssignment(Statement made) {
-            made.kind = Kind.ASSIGN;
-            made.target = findCell();
-            if (made.target < 0) {
+            int cell = find(0);
+            if (!isVariable(cell) && !isLocal(cell)) {
                 fail();
                 return;
             }
+            made.kind = Kind.ASSIGN;
+            made.target = cell;
             advance();
             expect(Token.GETS);
             readExpression(made);
-            made.uses |= variableBit(made.target);
+            if (isVariable(cell)) {
+                made.uses |= 1 << cell;
+            }
             expect(Token.SEMICOLON);
         }
 
         private void readLockUse(Statement made, Kind kind) {
             made.kind = kind;
             advance();
-            if (kind == Kind.WAKE && reader.token == Token.ALL) {
+            if (kind == Kind.WAKE && token == Token.ALL) {
                 made.kind = Kind.WAKE_ALL;
                 advance();
             }
-            made.target = findLock();
-            if (made.target < 0) {
+            made.target = find(0);
+            if (!isLock(made.target)) {
                 fail();
                 return;
             }
@@ -809,7 +843,7 @@ public final class ScheduleCheck {
             readExpression(made);
             expect(Token.RIGHT);
             made.yes = readBlock(number, depth);
-            if (kind == Kind.IF && reader.token == Token.ELSE) {
+            if (kind == Kind.IF && token == Token.ELSE) {
                 advance();
                 made.no = readBlock(number, depth);
             }
@@ -843,8 +877,8 @@ public final class ScheduleCheck {
             }
             readLevel(level + 1, depth);
             int most = level == COMPARE_LEVEL ? 1 : MOST_ATOMS;
-            for (int i = 0; i < most && reader.token.level == level; i++) {
-                Token sign = reader.token;
+            for (int i = 0; i < most && token.level == level; i++) {
+                Token sign = token;
                 advance();
                 readLevel(level + 1, depth);
                 program.code.add(sign, 0);
@@ -852,16 +886,12 @@ public final class ScheduleCheck {
         }
 
         private void readAtom(int depth) {
-            Token sign = reader.token;
+            Token sign = token;
             if (sign == Token.NUMBER || sign == Token.NAME) {
                 readOperand();
-                return;
-            }
-            if (depth == MOST_DEPTH) {
+            } else if (depth == MOST_DEPTH) {
                 fail();
-                return;
-            }
-            if (sign == Token.LEFT) {
+            } else if (sign == Token.LEFT) {
                 advance();
                 readLevel(0, depth + 1);
                 expect(Token.RIGHT);
@@ -875,50 +905,19 @@ public final class ScheduleCheck {
         }
 
         private void readOperand() {
-            boolean isName = reader.token == Token.NAME;
-            int operand = isName ? findCell() : reader.number;
-            if (operand < 0 || atoms == MOST_ATOMS) {
+            boolean isName = token == Token.NAME;
+            int operand = isName ? find(0) : (int) tokens.contents[at];
+            boolean isKnown = !isName || isVariable(operand) || isLocal(operand);
+            if (!isKnown || atoms == MOST_ATOMS) {
                 fail();
                 return;
             }
             atoms++;
-            program.code.add(reader.token, operand);
-            if (isName) {
-                uses |= variableBit(operand);
+            program.code.add(token, operand);
+            if (isName && isVariable(operand)) {
+                uses |= 1 << operand;
             }
             advance();
-        }
-
-        private static int variableBit(int cell) {
-            return cell < MOST_VARIABLES ? 1 << cell : 0;
-        }
-
-        /** The cell of the local or variable that is named here, or below 0. */
-        private int findCell() {
-            int thread = program.threads - 1;
-            int k = find(localNames, program.locals[thread]);
-            if (k >= 0) {
-                return localCell(thread, k);
-            }
-            return find(variableNames, program.variables);
-        }
-
-        /** The lock that is named here, or below 0. */
-        private int findLock() {
-            boolean isHidden = find(localNames, program.locals[program.threads - 1]) >= 0;
-            if (reader.token != Token.NAME || isHidden) {
-                return -1;
-            }
-            return find(lockNames, program.locks);
-        }
-
-        private int find(long[] names, int known) {
-            for (int i = 0; i < known; i++) {
-                if (names[i] == reader.name) {
-                    return i;
-                }
-            }
-            return -1;
         }
     }
 
@@ -1081,7 +1080,13 @@ public final class ScheduleCheck {
             buildFirst();
             states.keep(NO_PARENT, NOBODY);
             for (int state = 0; state < MOST_STATES && state < states.size; state++) {
-                takeSteps(state);
+                states.beginSteps(state);
+                int movers = states.cell(state, ERROR_CELL) == 0 ? program.threads : 0;
+                for (int thread = 0; thread < movers; thread++) {
+                    if (isReady(state, thread)) {
+                        takeStep(state, thread);
+                    }
+                }
                 if (states.overflows) {
                     return false;
                 }
@@ -1105,18 +1110,6 @@ public final class ScheduleCheck {
             states.set(CULPRIT_CELL, NOBODY);
         }
 
-        private void takeSteps(int state) {
-            states.beginSteps(state);
-            if (states.cell(state, ERROR_CELL) != 0) {
-                return;
-            }
-            for (int thread = 0; thread < program.threads; thread++) {
-                if (isReady(state, thread)) {
-                    takeStep(state, thread);
-                }
-            }
-        }
-
         private boolean isReady(int state, int thread) {
             int wait = states.cell(state, WAIT_CELL + thread);
             if (states.cell(state, PLACE_CELL + thread) == ENDED || wait == WAITS) {
@@ -1124,7 +1117,7 @@ public final class ScheduleCheck {
             }
             Statement next = nextOf(state, thread);
             if (wait == WOKEN || next.kind == Kind.TAKE) {
-                return states.cell(state, OWNER_CELL + next.target) == NOBODY;
+                return states.cell(state, next.target) == NOBODY;
             }
             return true;
         }
@@ -1139,8 +1132,12 @@ public final class ScheduleCheck {
             states.copy(state);
             if (states.cell(state, WAIT_CELL + thread) == WOKEN) {
                 states.set(WAIT_CELL + thread, RUNS);
-                states.set(OWNER_CELL + next.target, thread);
+                states.set(next.target, thread);
                 go(state, thread, next.follow);
+                return;
+            }
+            if (next.needsOwner() && states.cell(state, next.target) != thread) {
+                err(state, thread, LOCK_ERROR);
                 return;
             }
             switch (next.kind) {
@@ -1149,26 +1146,41 @@ public final class ScheduleCheck {
                     go(state, thread, next.follow);
                     break;
                 case TAKE:
-                    states.set(OWNER_CELL + next.target, thread);
+                    states.set(next.target, thread);
                     go(state, thread, next.follow);
                     break;
-                case ASSERT:
-                    if (resultIn(state, next) == 0) {
-                        err(state, thread, ASSERT_ERROR);
-                    } else {
-                        go(state, thread, next.follow);
-                    }
+                case GIVE:
+                    states.set(next.target, NOBODY);
+                    go(state, thread, next.follow);
                     break;
-                case IF:
-                case WHILE:
-                    go(state, thread, resultIn(state, next) != 0 ? next.yes : next.no);
+                case WAIT:
+                    states.set(next.target, NOBODY);
+                    states.set(WAIT_CELL + thread, WAITS);
+                    states.keep(state, thread);
+                    break;
+                case WAKE:
+                    wakeOne(state, thread, next);
+                    break;
+                case WAKE_ALL:
+                    wakeAll(state, thread, next);
+                    break;
+                case ASSERT:
+                    assertThat(state, thread, next);
                     break;
                 case STOP:
                     go(state, thread, ENDED);
                     break;
                 default:
-                    useLock(state, thread, next);
+                    go(state, thread, resultIn(state, next) != 0 ? next.yes : next.no);
                     break;
+            }
+        }
+
+        private void assertThat(int state, int thread, Statement next) {
+            if (resultIn(state, next) == 0) {
+                err(state, thread, ASSERT_ERROR);
+            } else {
+                go(state, thread, next.follow);
             }
         }
 
@@ -1185,26 +1197,6 @@ public final class ScheduleCheck {
             states.set(ERROR_CELL, kind);
             states.set(CULPRIT_CELL, thread);
             states.keep(state, thread);
-        }
-
-        /** The steps that only a lock's owner may do. */
-        private void useLock(int state, int thread, Statement next) {
-            if (states.cell(state, OWNER_CELL + next.target) != thread) {
-                err(state, thread, LOCK_ERROR);
-                return;
-            }
-            if (next.kind == Kind.GIVE) {
-                states.set(OWNER_CELL + next.target, NOBODY);
-                go(state, thread, next.follow);
-            } else if (next.kind == Kind.WAIT) {
-                states.set(OWNER_CELL + next.target, NOBODY);
-                states.set(WAIT_CELL + thread, WAITS);
-                states.keep(state, thread);
-            } else if (next.kind == Kind.WAKE) {
-                wakeOne(state, thread, next);
-            } else {
-                wakeAll(state, thread, next);
-            }
         }
 
         private void wakeOne(int state, int thread, Statement next) {

@@ -1,3 +1,7 @@
+import java.util.ArrayList;
+import java.util.List;
+import java.util.Random;
+
 /** Where the fault of a text is: '^' stands before the place that is due, and is no part of the text. */
 public final class ScheduleCheckFaults {
     public static void main(String[] args) {
@@ -13,6 +17,7 @@ public final class ScheduleCheckFaults {
         atomLimits();
         foreignBytes();
         everyCut();
+        shuffledTokens();
         Probe.finish("ScheduleCheckFaults");
     }
 
@@ -338,5 +343,37 @@ public final class ScheduleCheckFaults {
             }
         }
         Probe.due("the whole", Probe.check(x, text), Probe.NONE);
+    }
+
+    /** A text's fault is where it was first wrong: what stands before has none, and what follows counts for nothing. */
+    private static void shuffledTokens() {
+        String[] good = ("var x = - 3 ; lock m ; thread { local a ; a = ( x + 1 ) * 2 ; take m ;"
+            + " if ( a <= x && ! a ) { wake all m ; } else { while ( x ) { wait m ; } } give m ; assert x ; stop ; }").split(" ");
+        Random random = new Random(1);
+        ScheduleCheck x = new ScheduleCheck();
+        for (int round = 0; round < 5000; round++) {
+            List<String> tokens = new ArrayList<>(List.of(good));
+            for (int change = 0; change <= round % 3; change++) {
+                int at = random.nextInt(tokens.size());
+                String other = good[random.nextInt(good.length)];
+                switch (random.nextInt(3)) {
+                    case 0 -> tokens.set(at, other);
+                    case 1 -> tokens.add(at, other);
+                    default -> tokens.remove(at);
+                }
+            }
+            String text = String.join(" ", tokens);
+            int fault = Probe.check(x, text);
+            if (fault >= 0) {
+                int before = Probe.check(x, text.substring(0, fault));
+                Probe.due("before the fault of " + text, before == Probe.NONE ? fault : before, fault);
+            } else {
+                Probe.due("no fault of " + text, fault, Probe.NONE);
+            }
+            if (fault >= 0 && fault < text.length()) {
+                int end = text.indexOf(' ', fault) < 0 ? text.length() : text.indexOf(' ', fault);
+                Probe.due("with another end " + text, Probe.check(x, text.substring(0, end) + " ; } @"), fault);
+            }
+        }
     }
 }

@@ -307,6 +307,9 @@ public final class ScheduleCheckPromises {
         is("b >= a", 1);
         is("n < 0", 1);
         is("127 + 1 < 0", 1);
+        is("n - a > 0", 1);
+        is("-(n - 1) < 0", 1);
+        is("64 * 2 < 0", 1);
         is("a == 2", 1);
         is("a != 2", 0);
         is("a + 1 == b", 1);
