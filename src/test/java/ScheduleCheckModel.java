@@ -62,6 +62,7 @@ public final class ScheduleCheckModel {
     private final Map<State, Integer> numbers = new HashMap<>();
     private boolean full;
     private boolean wakeHasChoice;
+    private Subject subject;
 
     private ScheduleCheckModel(long seed) {
         random = new Random(seed);
@@ -69,7 +70,7 @@ public final class ScheduleCheckModel {
 
     public static void main(String[] args) {
         int[] seen = new int[7];
-        ScheduleCheck used = new ScheduleCheck();
+        Subject used = new Subject();
         for (int round = 0; round < ROUNDS; round++) {
             ScheduleCheckModel model = new ScheduleCheckModel(round);
             model.makeProgram();
@@ -78,7 +79,9 @@ public final class ScheduleCheckModel {
             }
             model.explore();
             // A used object must answer as a new one does.
-            model.compare(round % 2 == 0 ? used : new ScheduleCheck(), seen);
+            model.subject = used;
+            model.compare(seen);
+            used = model.subject;
         }
         for (int i = 0; i < seen.length; i++) {
             Probe.due("rounds that show sort " + i, seen[i] > 30 ? 1 : 0, 1);
@@ -474,22 +477,38 @@ public final class ScheduleCheckModel {
         Probe.due(got == want ? call : call + " of " + text.toString().replace('\n', ' '), got, want);
     }
 
-    private void compare(ScheduleCheck x, int[] seen) {
-        due("check", Probe.check(x, text.toString()), full ? Probe.FULL : Probe.NONE);
+    /** The object with the program, or a new one if that has had all its calls. */
+    private Subject ask() {
+        if (!subject.hasRoomFor(1)) {
+            subject = new Subject();
+            check();
+        }
+        return subject;
+    }
+
+    private void check() {
+        due("check", subject.check(text.toString()), full ? Probe.FULL : Probe.NONE);
+    }
+
+    private void compare(int[] seen) {
+        if (!subject.hasRoomFor(Subject.callsToCheck(text.toString()))) {
+            subject = new Subject();
+        }
+        check();
         if (full) {
             seen[0]++;
             for (int what = 0; what < 9; what++) {
-                due("count " + what, x.count(what), 0);
+                due("count " + what, ask().count(what), 0);
             }
             return;
         }
         seen[6] += wakeHasChoice ? 1 : 0;
-        compareCounts(x, seen);
+        compareCounts(seen);
         for (int i = 0; i < found.size(); i++) {
-            compareState(x, i);
+            compareState(i);
         }
         for (int v = 0; v < variables.size(); v++) {
-            compareVariable(x, v, seen);
+            compareVariable(v, seen);
         }
     }
 
@@ -508,7 +527,7 @@ public final class ScheduleCheckModel {
         return s.kind() == 0 && !s.isEnd() && !anyReady;
     }
 
-    private void compareCounts(ScheduleCheck x, int[] seen) {
+    private void compareCounts(int[] seen) {
         int pairs = 0;
         for (Found one : found) {
             pairs += new HashSet<>(one.next()).size();
@@ -526,42 +545,42 @@ public final class ScheduleCheckModel {
         int[] due = {found.size(), pairs, counts[0], counts[1], counts[2],
             threads.size(), variables.size(), locks.size(), statements};
         for (int what = 0; what < due.length; what++) {
-            due("count " + what, x.count(what), due[what]);
+            due("count " + what, ask().count(what), due[what]);
         }
         for (int sort = 0; sort < 3; sort++) {
-            due("first " + sort, x.first(sort), firsts[sort]);
+            due("first " + sort, ask().first(sort), firsts[sort]);
             seen[1 + sort] += counts[sort] > 0 ? 1 : 0;
         }
     }
 
-    private void compareState(ScheduleCheck x, int i) {
+    private void compareState(int i) {
         Found one = found.get(i);
         State s = one.state();
         int[] looks = {one.depth(), one.mover(), one.parent(), s.kind(), s.culprit()};
         for (int what = 0; what < looks.length; what++) {
-            due("look " + i + " " + what, x.look(i, what), looks[what]);
+            due("look " + i + " " + what, ask().look(i, what), looks[what]);
         }
         for (int v = 0; v <= variables.size(); v++) {
-            due("value " + i + " " + v, x.value(i, v), v < variables.size() ? s.values().get(v) : 1000);
+            due("value " + i + " " + v, ask().value(i, v), v < variables.size() ? s.values().get(v) : 1000);
         }
         for (int lock = 0; lock <= locks.size(); lock++) {
-            due("owner " + i + " " + lock, x.owner(i, lock), lock < locks.size() ? s.owners().get(lock) : Probe.NONE);
+            due("owner " + i + " " + lock, ask().owner(i, lock), lock < locks.size() ? s.owners().get(lock) : Probe.NONE);
         }
         for (int t = 0; t < threads.size(); t++) {
-            due("place " + i + " " + t, x.place(i, t), s.place(t));
-            due("waits " + i + " " + t, x.waits(i, t), s.waits().get(t));
+            due("place " + i + " " + t, ask().place(i, t), s.place(t));
+            due("waits " + i + " " + t, ask().waits(i, t), s.waits().get(t));
             for (int k = 0; k <= 3; k++) {
                 int due = k < localCounts.get(t) ? s.locals().get(t).get(k) : 1000;
-                due("local " + i + " " + t + " " + k, x.local(i, t, k), due);
+                due("local " + i + " " + t + " " + k, ask().local(i, t, k), due);
             }
         }
         for (int k = 0; k <= one.next().size(); k++) {
             int due = k < one.next().size() ? one.next().get(k) : Probe.NONE;
-            due("next " + i + " " + k, x.next(i, k), due);
+            due("next " + i + " " + k, ask().next(i, k), due);
         }
     }
 
-    private void compareVariable(ScheduleCheck x, int v, int[] seen) {
+    private void compareVariable(int v, int[] seen) {
         TreeSet<Integer> ends = new TreeSet<>();
         int race = Probe.NONE;
         for (int i = found.size() - 1; i >= 0; i--) {
@@ -573,10 +592,10 @@ public final class ScheduleCheckModel {
         }
         seen[4] += ends.size() > 1 ? 1 : 0;
         seen[5] += race >= 0 ? 1 : 0;
-        due("outcome 0", x.outcome(v, 0), ends.isEmpty() ? 1000 : ends.first());
-        due("outcome 1", x.outcome(v, 1), ends.isEmpty() ? 1000 : ends.last());
-        due("outcome 2", x.outcome(v, 2), ends.isEmpty() ? 1000 : ends.size());
-        due("race " + v, x.race(v), race);
+        due("outcome 0", ask().outcome(v, 0), ends.isEmpty() ? 1000 : ends.first());
+        due("outcome 1", ask().outcome(v, 1), ends.isEmpty() ? 1000 : ends.last());
+        due("outcome 2", ask().outcome(v, 2), ends.isEmpty() ? 1000 : ends.size());
+        due("race " + v, ask().race(v), race);
     }
 
     private boolean hasRace(State s, int v) {
