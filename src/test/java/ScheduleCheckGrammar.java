@@ -435,6 +435,11 @@ public final class ScheduleCheckGrammar {
         bad("var a; var b; lock c; var d; lock e; lock ^e; thread { }");
         bad("var a; var b; lock c; var d; lock e; lock ^b; thread { }");
         good("var x; var xx; var x0; lock x1; lock xxx; thread { }");
+        // As many as there may be, with a thread's locals behind them.
+        good(EIGHT + FOUR + "thread { local o; local p; local q; a = h + o; take k; give n; } thread { local a; local k; local q; }");
+        good(FOUR + EIGHT + "thread { local o; local p; local q; q = h; }");
+        bad(EIGHT + FOUR + "thread { local o; local p; local q; local ^r; }");
+        bad(EIGHT + FOUR + "thread { local o; local p; local ^o; }");
     }
 
     private static void localNames() {

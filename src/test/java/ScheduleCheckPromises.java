@@ -221,12 +221,34 @@ public final class ScheduleCheckPromises {
             due("cut", z.end(n), n);
             due("what is left of " + n, z.check(), n == 9 ? 9 : n == 10 ? NONE : 10);
         }
+        // What is cut is gone, though it would go on with the token that is cut.
+        String text = "var abcdefgh = 127 ; thread { abcdefgh = abcdefgh <= 127 && abcdefgh != 100 ; }";
+        for (int n = 0; n <= text.length(); n++) {
+            Subject cut = new Subject();
+            cut.write(0, text);
+            cut.end(n);
+            due("cut to " + n, cut.check(), new Subject().check(text.substring(0, n)));
+        }
+        endsAt("var abcdefgh", 11);
+        endsAt("var x = 127", 10);
+        endsAt("var x = 127", 9);
+        endsAt("var x; thread { x = x <= 1", 23);
+        endsAt("var x; thread { x = x == 1", 23, 22);
+        endsAt("var x; thread { x = x && 1", 23, 22);
         Subject full = taped(1600);
         due("1600 of 1600", full.end(1600), 1600);
         due("its text", full.check(), NONE);
         full = taped(1600);
         due("0 of 1600", full.end(0), 0);
         due("no text", full.check(), 0);
+    }
+
+    /** A text that is cut to n bytes has its fault at its end, or where it is told. */
+    private static void endsAt(String text, int n, int... told) {
+        Subject x = new Subject();
+        x.write(0, text);
+        due("cut", x.end(n), n);
+        due(text + " cut to " + n, x.check(), told.length == 0 ? n : told[0]);
     }
 
     private static void endRefused() {
@@ -280,10 +302,31 @@ public final class ScheduleCheckPromises {
         due("its owner", x.owner(2, 0), 0);
         due("no owner at first", x.owner(0, 0), -1);
         due("states", x.count(0), 3);
+        smallBehindGreat();
         Subject widest = taped(1600);
         due("a text of 1600 bytes", widest.check(), NONE);
         due("its threads", widest.count(5), 1);
         due("the least text", new Subject().check("thread{}"), NONE);
+    }
+
+    /** Nothing of a program with more states, statements and names shows in one with less. */
+    private static void smallBehindGreat() {
+        String[] great = {"var x; thread { x = 5; x = 6; x = 7; }", "var x; thread { x = 1; } thread { x = 2; x = 3; }",
+            "lock m; thread { take m; take m; } thread { take m; give m; stop; }", "thread { assert 1; assert 1; assert 0; }",
+            "var x; thread { x = x; } thread { x = x; } thread { x = x; } thread { assert x; }"};
+        String[] small = {"var x; thread { x = 1; }", "thread { }", "var x; lock m; thread { take m; } thread { take m; }",
+            "var x; lock m; thread { while (1) { } } thread { assert 1; }"};
+        for (String first : great) {
+            for (String second : small) {
+                Subject x = Subject.made(first);
+                // Twice each, for an object may well have two places for a program.
+                due("again", x.check(first), NONE);
+                due("the other", x.check(second), NONE);
+                Probe.holds(second + " behind " + first, told(x).equals(told(Subject.made(second))));
+                due("again", x.check(second), NONE);
+                Probe.holds(second + " twice behind " + first, told(x).equals(told(Subject.made(second))));
+            }
+        }
     }
 
     private static void checkFault() {
@@ -730,6 +773,18 @@ public final class ScheduleCheckPromises {
         String rounds = "var go = 1; var x = START; thread { while (go) { x = x + 2; } } thread { go = 0; }";
         outcomes(rounds.replace("START", "0"), 1, -128, 126, 128);
         outcomes(rounds.replace("START", "1"), 1, -127, 127, 128);
+        due("states of such rounds", Subject.made(rounds.replace("START", "0")).count(0), 5 * 128);
+        // One object is asked for one variable behind the other, and for another program.
+        Subject x = Subject.made("var a = 1; var b = 2; thread { a = 3; } thread { a = 4; }");
+        due("different of a", x.outcome(0, 2), 2);
+        due("different of b", x.outcome(1, 2), 1);
+        due("greatest of b", x.outcome(1, 1), 2);
+        due("least of a", x.outcome(0, 0), 3);
+        due("least of b", x.outcome(1, 0), 2);
+        due("another program", x.check("var a = 9; thread { }"), NONE);
+        due("least then", x.outcome(0, 0), 9);
+        due("greatest then", x.outcome(0, 1), 9);
+        due("different then", x.outcome(0, 2), 1);
         // What comes in an error or in a deadlock does not count.
         outcomes("var x; thread { x = 1; } thread { if (x) { x = 9; assert 0; } }", 0, 1, 1, 1);
         outcomes("var x; lock m; thread { x = 1; } thread { if (x) { take m; x = 9; take m; } }", 0, 1, 1, 1);
@@ -784,7 +839,16 @@ public final class ScheduleCheckPromises {
         due("thread 1 is at its write", x.place(race, 1), 6);
         due("thread 0 is no more woken", x.waits(race, 0), 0);
         String eight = "var a; var b; var c; var d; var e; var f; var g; var h; ";
-        due("the last of eight", Subject.made(eight + "thread { h = 1; } thread { h = 2; }").race(7), 0);
+        for (int variable = 0; variable < 8; variable++) {
+            char name = (char) ('a' + variable);
+            String writes = "thread { " + name + " = 1; } ";
+            for (String user : new String[] {writes, "thread { assert !" + name + "; }", "thread { local i; i = " + name + "; }"}) {
+                x = Subject.made(eight + writes + user);
+                for (int other = 0; other < 8; other++) {
+                    due("race " + other + " of " + writes + user, x.race(other), other == variable ? 0 : NONE);
+                }
+            }
+        }
     }
 
     private static void raceNone() {
@@ -800,6 +864,17 @@ public final class ScheduleCheckPromises {
         races("one has ended", "var x; thread { x = 1; } thread { }", NONE);
         String body = "take m; x = x + 1; give m; ";
         races("guarded", "var x; lock m; thread { " + body + "} thread { " + body + "}", NONE);
+        // What stands elsewhere in a thread is no part of its next step.
+        String reads = "thread { take m; assert !x || 1; give m; assert 1; } ";
+        String writes = "thread { take m; x = 1; give m; assert 1; } ";
+        races("read and write guarded", "var x; lock m; " + reads + writes, NONE);
+        races("write and read guarded", "var x; lock m; " + writes + reads, NONE);
+        Subject used = Subject.made("var x; var y; thread { x = 1; y = x; x = y; } thread { y = x; x = y; y = 1; }");
+        for (int round = 0; round < 3; round++) {
+            String free = "var x; lock m; thread { take m; give m; stop; } thread { x = 1; x = 2; stop; }";
+            due("check", used.check(free), NONE);
+            due("nothing is left of another program", used.race(0), NONE);
+        }
         Subject x = Subject.made("var x; var y; thread { x = 1; y = 1; } thread { x = 2; y = 2; }");
         Probe.holds("the last variable", x.race(1) != NONE);
         for (int outside = 2; outside < 70; outside++) {

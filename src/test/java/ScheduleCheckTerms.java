@@ -16,6 +16,7 @@ public final class ScheduleCheckTerms {
         valuesTrue();
         valuesCompare();
         valuesKept();
+        widestStates();
         firstState();
         ready();
         readyWoken();
@@ -201,6 +202,19 @@ public final class ScheduleCheckTerms {
             round++;
         }
         Probe.holds("rounds", round > 20);
+        Subject y = new Subject();
+        while (y.hasRoomFor(Subject.callsToCheck(most) + 3)) {
+            due("check", y.check(most), NONE);
+            due("pairs", y.count(1), 7 * 100 + 2 * 8 * 9 * 10);
+            due("the last step", y.next(798, 0), 799);
+            due("no step", y.next(799, 0), NONE);
+        }
+        String atoms = "var r; thread { r = 1" + "+1".repeat(149) + "; }";
+        Subject z = new Subject();
+        while (z.hasRoomFor(Subject.callsToCheck(atoms) + 1)) {
+            due("check of 150 ATOMS", z.check(atoms), NONE);
+            due("their sum", z.value(1, 0), 150 - 256);
+        }
     }
 
     private static void tape() {
@@ -216,6 +230,14 @@ public final class ScheduleCheckTerms {
         due("1600", x.feed(' '), 1600);
         due("no more", x.feed(' '), FULL);
         due("all are read", x.check(), 1600);
+        // Each byte may be a token of its own.
+        for (char one : new char[] {';', '(', '{', '-', '@'}) {
+            for (int length = 1597; length <= 1600; length++) {
+                due("tokens " + one, new Subject().check(("" + one).repeat(length)), 0);
+            }
+        }
+        String most = "thread{}".repeat(4);
+        due("tokens behind", new Subject().check(most + ";".repeat(1600 - most.length())), most.length());
     }
 
     /** Calls that only ask for what stands. */
@@ -358,6 +380,45 @@ public final class ScheduleCheckTerms {
             "v2 o- p0 l0 > 1", "v2 o0 p1 l0 > 2", "v2 o0 p2 l2 > 3", "v2 o0 p2 l2 e1:0 >");
     }
 
+    /**
+     * Eight variables, four locks, and four threads with three locals that go their own ways, so that
+     * the places tell all that is due: 5 * 5 * 5 * 5 states.
+     */
+    private static void widestStates() {
+        StringBuilder text = new StringBuilder();
+        for (int i = 0; i < 8; i++) {
+            text.append("var v").append(i).append(" = ").append(10 + i).append("; ");
+        }
+        text.append("lock k0; lock k1; lock k2; lock k3; ");
+        for (int t = 0; t < 4; t++) {
+            text.append("thread { local a; local b; local c; a = ").append(t + 1).append("; c = a + 4; take k").append(t);
+            text.append("; v").append(2 * t + 1).append(" = c * 2; } ");
+        }
+        Subject x = Subject.made(text.toString());
+        int[] counts = {625, 4 * 4 * 125, 1, 0, 0, 4, 8, 4, 16};
+        for (int what = 0; what < counts.length; what++) {
+            due("count " + what + " of the widest", x.count(what), counts[what]);
+        }
+        due("the end", x.first(0), 624);
+        for (int state = 0; state < 625; state++) {
+            if (!x.hasRoomFor(40)) {
+                x = Subject.made(text.toString());
+            }
+            for (int t = 0; t < 4; t++) {
+                int done = x.place(state, t) == -1 ? 4 : x.place(state, t) - 4 * t;
+                due("v" + 2 * t + " in " + state, x.value(state, 2 * t), 10 + 2 * t);
+                due("v" + (2 * t + 1) + " in " + state, x.value(state, 2 * t + 1), done < 4 ? 11 + 2 * t : 2 * (t + 5));
+                due("a of " + t + " in " + state, x.local(state, t, 0), done < 1 ? 0 : t + 1);
+                due("b of " + t + " in " + state, x.local(state, t, 1), 0);
+                due("c of " + t + " in " + state, x.local(state, t, 2), done < 2 ? 0 : t + 5);
+                due("owner of k" + t + " in " + state, x.owner(state, t), done < 3 ? -1 : t);
+                due("waits of " + t + " in " + state, x.waits(state, t), 0);
+            }
+            due("error in " + state, x.look(state, 3), 0);
+            due("thread of an error in " + state, x.look(state, 4), -1);
+        }
+    }
+
     private static void firstState() {
         Probe.sentence("At first: the first statements, no owners.");
         isShown(Subject.made("thread { }"), 0, "p- >");
@@ -427,6 +488,22 @@ public final class ScheduleCheckTerms {
         isShown(x, woken, "o- p1,5 w2,0 > " + x.next(woken, 0) + " " + x.next(woken, 1));
         isShown(x, x.next(woken, 0), "o0 p-,5 >");
         isShown(x, x.next(woken, 1), "o1 p1,- w2,0 >");
+        // So it does whichever thread it is, and whatever lock.
+        for (int thread = 0; thread < 4; thread++) {
+            String[] threads = {"thread { } ", "thread { } ", "thread { } ", "thread { } "};
+            threads[thread] = "thread { take n; wait n; stop; } ";
+            threads[(thread + 1) % 4] = "thread { take n; wake n; give n; } ";
+            x = Subject.made("lock m; lock n; " + String.join("", threads));
+            int other = (thread + 1) % 4;
+            woken = walk(x, 0, thread, thread, other, other, other);
+            due("woken " + thread, x.waits(woken, thread), 2);
+            int on = step(x, woken, thread);
+            due("the only step of " + thread, steps(x, woken), 1);
+            due("owns it again " + thread, x.owner(on, 1), thread);
+            due("waits no more " + thread, x.waits(on, thread), 0);
+            due("goes on " + thread, x.place(on, thread), x.place(0, thread) + 2);
+            due("to the end", x.count(2), 1);
+        }
         // In a while it goes back to the while, and may wait again.
         x = Subject.made("var x; lock m; thread { take m; while (x == 0) { wait m; } } thread { take m; wake m; give m; }");
         woken = walk(x, 0, 0, 0, 0, 1, 1, 1);
@@ -479,6 +556,17 @@ public final class ScheduleCheckTerms {
 
     private static void wakeOthers() {
         Probe.sentence("one of those that wait for the lock");
+        // No place, local or owner is taken for one that waits.
+        for (String use : new String[] {"wake m", "wake all m"}) {
+            graph("lock m; thread { } thread { } thread { } thread { take m; " + use + "; }",
+                "o- p-,-,-,0 > 1", "o3 p-,-,-,1 > 2", "o3 p-,-,-,- >");
+            Subject y = Subject.made("lock m; thread { local a; take m; give m; a = 1; stop; } thread { } thread { } thread { take m; " + use + "; stop; }");
+            int set = walk(y, 0, 0, 0, 0, 3);
+            due("steps with " + use, steps(y, set), 2);
+            int behind = step(y, set, 3);
+            due("the local stays", y.local(behind, 0, 0), 1);
+            due("waits", y.waits(behind, 0), 0);
+        }
         // A woken one does not wait any more: the second wake finds nobody.
         Subject x = Subject.made("lock m; " + WAITER + "thread { take m; wake m; wake m; wake all m; stop; }");
         int woken = walk(x, 0, 0, 0, 1, 1);
@@ -674,6 +762,8 @@ public final class ScheduleCheckTerms {
         sorts("var x; thread { x = 1; } thread { x = 2; }", 2, 0, 0);
         // A lock that is still owned does not matter.
         sorts("lock m; thread { take m; }", 1, 0, 0);
+        sorts("lock k; lock l; lock m; lock n; thread { take k; take l; take m; take n; }", 1, 0, 0);
+        sorts("lock k; lock l; lock m; lock n; thread { take n; } thread { } thread { } thread { take k; }", 1, 0, 0);
         due("the last to end", Subject.made("thread { } thread { } thread { } thread { stop; }").first(0), 1);
     }
 
@@ -719,6 +809,18 @@ public final class ScheduleCheckTerms {
         graph("lock m; thread { take m; wait m; } thread { take m; while (1) { wake m; } }",
             "o- p0,2 > 1 2", "o0 p1,2 > 3", "o1 p0,3 > 4", "o- p1,2 w1,0 > 5", "o1 p0,4 > 2", "o1 p1,3 w1,0 > 6",
             "o1 p1,4 w1,0 > 7", "o1 p1,3 w2,0 > 8", "o1 p1,4 w2,0 > 7");
+        // However many there are, none is found twice.
+        Subject round = Subject.made("var x; thread { while (1) { x = x + 1; } }");
+        due("places and values", round.count(0), 2 * 256);
+        due("pairs", round.count(1), 2 * 256);
+        due("the last leads to the first", round.next(511, 0), 0);
+        round = Subject.made("var x; thread { while (1) { x = 5 * x + 3; } }");
+        due("places and all values in another order", round.count(0), 2 * 256);
+        due("the last leads to the first", round.next(511, 0), 0);
+        round = Subject.made("var x; var y; thread { while (1) { x = x + 2; } } thread { y = 7; }");
+        due("places of two and values of two", round.count(0), 2 * 2 * 128);
+        round = Subject.made("var x; thread { local a; while (1) { a = a + 3; x = a + x * 0; } }");
+        due("places and values of a local", round.count(0), 3 * 256);
         Probe.sentence("an error's are those of the state before, with its thread and kind.)");
         graph("thread { assert 0; } thread { assert 0; }", "p0,1 > 1 2", "p0,1 e1:0 >", "p0,1 e1:1 >");
         graph("lock m; thread { assert 0; } thread { give m; }", "o- p0,1 > 1 2", "o- p0,1 e1:0 >", "o- p0,1 e2:1 >");
