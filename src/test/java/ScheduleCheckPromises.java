@@ -862,6 +862,8 @@ public final class ScheduleCheckPromises {
         races("a block is no part of its if", "var x; thread { if (0) { x = 1; } } thread { x = 2; }", NONE);
         races("never at once", "var x; thread { assert 0; x = 1; } thread { x = 2; }", NONE);
         races("one has ended", "var x; thread { x = 1; } thread { }", NONE);
+        races("one thread with all locks", "var x; lock k; lock l; lock m; lock n;"
+            + " thread { x = 1; take n; take m; take l; take k; assert x; x = x; }", NONE);
         String body = "take m; x = x + 1; give m; ";
         races("guarded", "var x; lock m; thread { " + body + "} thread { " + body + "}", NONE);
         // What stands elsewhere in a thread is no part of its next step.

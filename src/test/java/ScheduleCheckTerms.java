@@ -236,6 +236,8 @@ public final class ScheduleCheckTerms {
                 due("tokens " + one, new Subject().check(("" + one).repeat(length)), 0);
             }
         }
+        due("a name at the last", new Subject().check(";".repeat(1599) + "x"), 0);
+        due("a number at the last", new Subject().check(";".repeat(1599) + "1"), 0);
         String most = "thread{}".repeat(4);
         due("tokens behind", new Subject().check(most + ";".repeat(1600 - most.length())), most.length());
     }
