@@ -1,10 +1,3 @@
-import java.lang.reflect.Constructor;
-import java.lang.reflect.Field;
-import java.lang.reflect.Method;
-import java.lang.reflect.Modifier;
-import java.util.Set;
-import java.util.TreeSet;
-
 /** The promises of the document in their order, sentence by sentence, on both sides of each boundary. */
 public final class ScheduleCheckPromises {
     private static final int REFUSED = -1, NONE = -2, FULL = -3;
@@ -19,7 +12,6 @@ public final class ScheduleCheckPromises {
     private static final String STATES_801 = STATES_800.substring(0, STATES_800.length() - 1) + "stop; }";
 
     public static void main(String[] args) {
-        face();
         newObject();
         feedBytes();
         feedFull();
@@ -51,33 +43,6 @@ public final class ScheduleCheckPromises {
 
     private static void due(String what, int got, int want) {
         Probe.due(what, got, want);
-    }
-
-    private static void face() {
-        Probe.sentence("public static final int REFUSED = -1, NONE = -2, FULL = -3;");
-        due("REFUSED", ScheduleCheck.REFUSED, REFUSED);
-        due("NONE", ScheduleCheck.NONE, NONE);
-        due("FULL", ScheduleCheck.FULL, FULL);
-        Probe.sentence("public final class ScheduleCheck");
-        Probe.holds("final", Modifier.isFinal(ScheduleCheck.class.getModifiers()));
-        Set<String> seen = new TreeSet<>();
-        for (Method method : ScheduleCheck.class.getDeclaredMethods()) {
-            if (!Modifier.isPrivate(method.getModifiers())) {
-                seen.add(method.getName() + method.getParameterCount());
-            }
-        }
-        for (Field field : ScheduleCheck.class.getDeclaredFields()) {
-            if (!Modifier.isPrivate(field.getModifiers())) {
-                seen.add(field.getName());
-            }
-        }
-        for (Constructor<?> constructor : ScheduleCheck.class.getDeclaredConstructors()) {
-            seen.add("new" + constructor.getParameterCount());
-        }
-        Set<String> face = new TreeSet<>(Set.of("REFUSED", "NONE", "FULL", "new0", "feed5", "end1"));
-        face.addAll(Set.of("check0", "count1", "first1", "look2", "value2", "local3"));
-        face.addAll(Set.of("place2", "owner2", "waits2", "next2", "outcome2", "race1"));
-        Probe.holds("face " + seen, seen.equals(face));
     }
 
     /** Every call that asks for a program or a state finds none. */
